@@ -465,10 +465,9 @@ public final class SackedGlass {
             int count = 0;
             int from = 0;
             at = 0;
-            while (from < length) {
-                int to = from + 1;
+            for (int i = 0; i < MOST && from < length; i++) {
+                int to = runFrom(from);
                 if (!isBlank(bytes[from])) {
-                    to = runFrom(from);
                     places[count] = from;
                     tokens[count] = tokenOf(from, to, words);
                     numbers[count] = tokens[count] == NUMBER ? numberOf(from, to) : 0;
@@ -480,18 +479,16 @@ public final class SackedGlass {
             places[count] = length;
         }
 
+        /** Where letters or digits that stand together end; any other sign stands alone. */
         private int runFrom(int from) {
-            int to = from + 1;
-            if (isLetter(bytes[from])) {
-                while (to < length && isLetter(bytes[to])) {
-                    to++;
-                }
-            } else if (isDigit(bytes[from])) {
-                while (to < length && isDigit(bytes[to])) {
-                    to++;
+            boolean letters = isLetter(bytes[from]);
+            boolean digits = isDigit(bytes[from]);
+            for (int to = from + 1; to < length; to++) {
+                if (!(letters && isLetter(bytes[to]) || digits && isDigit(bytes[to]))) {
+                    return to;
                 }
             }
-            return to;
+            return length;
         }
 
         private int tokenOf(int from, int to, String words) {
@@ -1159,6 +1156,8 @@ public final class SackedGlass {
         static final int LEAST_GLUED = 3;
         private final int[] came = new int[SLOTS];
         private final int[] said = new int[SLOTS * MOST_TELLERS];
+        final int[] cameDays = new int[KINDS];
+        final int[] saidDays = new int[KINDS];
 
         void take(Memory other) {
             System.arraycopy(other.came, 0, came, 0, SLOTS);
@@ -1207,17 +1206,21 @@ public final class SackedGlass {
             return found;
         }
 
-        /** On how many days this kind came while the teller told that (NONE: anything). */
-        int daysOf(Court court, int teller, int told, int kind) {
-            int found = 0;
+        /** Counts for each kind on how many days it came while the teller told, and told just that. */
+        void countDays(Court court, int teller, int told) {
+            for (int k = 0; k < KINDS; k++) {
+                cameDays[k] = 0;
+                saidDays[k] = 0;
+            }
             for (int i = 0; i < kept(court); i++) {
                 int slot = slotOf(court, i);
                 int word = saidIn(slot, teller);
-                if (came[slot] == kind && word != NONE && (told == NONE || word == told)) {
-                    found++;
+                int kind = came[slot];
+                if (word != NONE && within(kind, 0, KINDS - 1)) {
+                    cameDays[kind]++;
+                    saidDays[kind] += word == told ? 1 : 0;
                 }
             }
-            return found;
         }
 
         boolean looksGlued(Court court, int teller) {
@@ -1434,7 +1437,10 @@ public final class SackedGlass {
         }
 
         void keep(Court court) {
-            courts[next].take(court);
+            Court slot = courts[next];
+            if (slot != null) {
+                slot.take(court);
+            }
             next = next + 1 < MOST ? next + 1 : 0;
             count = Math.min(count + 1, MOST);
         }
@@ -1445,7 +1451,10 @@ public final class SackedGlass {
             }
             next = next > 0 ? next - 1 : MOST - 1;
             count--;
-            court.take(courts[next]);
+            Court slot = courts[next];
+            if (slot != null) {
+                court.take(slot);
+            }
             return true;
         }
 
@@ -1459,6 +1468,7 @@ public final class SackedGlass {
         static final int SETS = 1 << MOST_TELLERS;
         static final int MOST_VOTES = 10;
         private final int[] table = new int[(Notes.MOST_POSTS + 1) * SETS];
+        private final int[] worths = new int[Notes.MOST_POSTS * MOST_TELLERS];
 
         private static int votesOf(Court court, int teller) {
             return court.serving(teller) ? MOST_VOTES - court.get(teller, Court.FEAR) : 0;
@@ -1537,43 +1547,51 @@ public final class SackedGlass {
         /** In how many ways these hats are had, if the last who has one of them is told. */
         private int waysWithHats(Court court, int hats, int last) {
             int ways = 0;
+            int sort = court.get(last, Court.SORT);
             for (int h = 0; h < MOST_TELLERS; h++) {
-                if ((hats >> h & 1) == 1 && court.get(h, Court.SORT) != court.get(last, Court.SORT)) {
+                if ((hats >> h & 1) == 1 && court.get(h, Court.SORT) != sort) {
                     ways += table[hats ^ 1 << h];
                 }
             }
             return ways;
         }
 
+        /** What each teller is worth at each post; 0 where it can't serve. */
+        private void countWorths(Court court, Notes notes) {
+            for (int post = 0; post < Notes.MOST_POSTS; post++) {
+                for (int t = 0; t < MOST_TELLERS; t++) {
+                    boolean can = court.serving(t);
+                    worths[post * MOST_TELLERS + t] = can ? notes.worthOf(post, court.get(t, Court.SORT)) : 0;
+                }
+            }
+        }
+
         /** The table has then, for each post and set of those who serve already, the greatest sum from that post on. */
         int greatestService(Court court, Notes notes) {
-            int all = court.servingSet();
+            countWorths(court, notes);
             for (int s = 0; s < SETS; s++) {
                 table[notes.postCount * SETS + s] = 0;
             }
             for (int post = notes.postCount - 1; post >= 0; post--) {
-                for (int s = 0; s <= all && s < SETS; s++) {
+                for (int s = 0; s < SETS; s++) {
                     // No more can serve already than there are posts ahead of this one.
-                    if ((s & ~all) == 0 && Integer.bitCount(s) <= post) {
-                        table[post * SETS + s] = bestFrom(court, notes, post, s);
+                    if (Integer.bitCount(s) <= post) {
+                        table[post * SETS + s] = bestFrom(post, s);
                     }
                 }
             }
             return table[0];
         }
 
-        private int bestFrom(Court court, Notes notes, int post, int taken) {
+        private int bestFrom(int post, int taken) {
             int best = table[(post + 1) * SETS + taken];
-            for (int t = 0; t < court.count; t++) {
-                if (court.serving(t) && (taken >> t & 1) == 0) {
-                    best = Math.max(best, sumWith(court, notes, post, taken, t));
+            for (int t = 0; t < MOST_TELLERS; t++) {
+                int worth = worths[post * MOST_TELLERS + t];
+                if (worth > 0 && (taken >> t & 1) == 0) {
+                    best = Math.max(best, worth + table[(post + 1) * SETS + (taken | 1 << t)]);
                 }
             }
             return best;
-        }
-
-        private int sumWith(Court court, Notes notes, int post, int taken, int teller) {
-            return notes.worthOf(post, court.get(teller, Court.SORT)) + table[(post + 1) * SETS + (taken | 1 << teller)];
         }
 
         int holderOf(Court court, Notes notes, int asked) {
@@ -1581,7 +1599,7 @@ public final class SackedGlass {
             int taken = 0;
             int holder = NONE;
             for (int post = 0; post <= asked && post < notes.postCount; post++) {
-                holder = firstHolder(court, notes, post, taken);
+                holder = firstHolder(post, taken);
                 if (holder != NONE) {
                     taken |= 1 << holder;
                 }
@@ -1589,10 +1607,12 @@ public final class SackedGlass {
             return holder;
         }
 
-        private int firstHolder(Court court, Notes notes, int post, int taken) {
-            for (int t = 0; t < court.count; t++) {
-                if (court.serving(t) && (taken >> t & 1) == 0
-                        && sumWith(court, notes, post, taken, t) == table[post * SETS + taken]) {
+        private int firstHolder(int post, int taken) {
+            int best = table[post * SETS + taken];
+            for (int t = 0; t < MOST_TELLERS; t++) {
+                int worth = worths[post * MOST_TELLERS + t];
+                if (worth > 0 && (taken >> t & 1) == 0
+                        && worth + table[(post + 1) * SETS + (taken | 1 << t)] == best) {
                     return t;
                 }
             }
@@ -1818,9 +1838,9 @@ public final class SackedGlass {
                     continue;
                 }
                 any = true;
+                memory.countDays(court, t, said);
                 for (int k = 0; k < KINDS; k++) {
-                    chances[k] = chances[k] * (1 + memory.daysOf(court, t, said, k))
-                            / (KINDS + memory.daysOf(court, t, NONE, k));
+                    chances[k] = chances[k] * (1 + memory.saidDays[k]) / (KINDS + memory.cameDays[k]);
                 }
             }
             return any;
