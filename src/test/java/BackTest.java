@@ -245,10 +245,17 @@ public final class BackTest {
         x.days(5);
         x.image(true);
         int[] was = dump(x);
+        // All tell on, so that each day of the record is written over by another one.
+        x.set(2, 0, -999);
+        for (int t = 0; t < 3; t++) {
+            x.act(4, t, 0);
+            x.act(2, t, t);
+        }
+        x.set(0, 0, 99);
+        Checks.text(x, 1, "for 1 rise 40;");
         x.days(60);
         x.days(60);
         x.set(1, 0, 0);
-        x.set(2, 0, -999);
         x.set(3, 0, 0);
         x.state(5);
         x.text(0);

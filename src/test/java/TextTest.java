@@ -161,6 +161,15 @@ public final class TextTest {
         C.faulty(x, 0, "tel 1;", 1, 0);
         C.faulty(x, 0, "Tell 1;", 1, 0);
         C.faulty(x, 0, "tellX 1;", 1, 0);
+        C.faulty(x, 0, "tellA 1;", 1, 0);
+        C.faulty(x, 0, "tellZ 1;", 1, 0);
+        C.faulty(x, 0, "tella 1;", 1, 0);
+        C.faulty(x, 0, "tellz 1;", 1, 0);
+        C.faulty(x, 0, "tell@1;", 1, 4);
+        C.faulty(x, 0, "tell[1;", 1, 4);
+        C.faulty(x, 0, "tell`1;", 1, 4);
+        C.faulty(x, 0, "tell{1;", 1, 4);
+        C.faulty(x, 0, "tell:1;", 1, 4);
         C.faulty(x, 0, "tell 1 whenday=1;", 1, 7);
         C.faulty(x, 0, "tell 1.", 1, 6);
         C.faulty(x, 0, "tell\t1;", 1, 4);
@@ -239,6 +248,7 @@ public final class TextTest {
     private static void promise10FaultsOfAgenda() {
         SackedGlass x = Checks.court(0, 0, 0, 0);
         C.sound(x, 2, "on 999 name 1;on 0 bribe 0 99;on 7 glue 1 4;on 7 free 0;on 7 recall 0;on 7 tap;", 6);
+        C.sound(x, 2, "on 0 bribe 1 0;on 0 glue 0 0;", 2);
         C.faulty(x, 2, "on 1000 tap;", 2, 3);
         C.faulty(x, 2, "on tap;", 1, 3);
         C.faulty(x, 2, "on 1;", 1, 4);

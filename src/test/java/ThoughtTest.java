@@ -75,6 +75,15 @@ public final class ThoughtTest {
         C.due("ahead(99)", x.ahead(99), 4);
         C.due("ahead(0)", x.ahead(0), NONE);
         C.due("ahead(100)", x.ahead(100), NONE);
+        // 10, held to 0, 19, 38: not a sign more.
+        x = new SackedGlass();
+        Checks.text(x, 1, "for 2 fall 40;for 2 rise 19;");
+        int[] low = {0, 0, 0, 1};
+        for (int n = 1; n <= 4; n++) C.due("ahead(" + n + ") from 0", x.ahead(n), low[n - 1]);
+        // 90, held to 99, 80, 61: not a sign less.
+        Checks.text(x, 1, "for 2 rise 40;for 2 fall 19;");
+        int[] high = {4, 4, 4, 3};
+        for (int n = 1; n <= 4; n++) C.due("ahead(" + n + ") from 99", x.ahead(n), high[n - 1]);
     }
 
     private static void promise16And17RightAndSurest() {
@@ -152,6 +161,12 @@ public final class ThoughtTest {
         x.days(1);
         // Right once: KIND 2: 200000 * 2 / 6; all others 40000.
         C.due("likely(2)", x.likely(2), 66666L * 1000000 / (66666 + 160000));
+        for (int k = 0; k < 5; k++) {
+            SackedGlass y = Checks.court(0, 0);
+            y.set(0, 0, 20 * k);
+            y.days(1);
+            C.due("BEST is what came", y.likely(NONE), k);
+        }
         // One that is gone counts no more.
         x.set(4, 0, -50);
         x.days(1);
@@ -205,6 +220,10 @@ public final class ThoughtTest {
         C.due("round(98)", x.round(98), 0);
         C.due("round(100)", x.round(100), NONE);
         C.due("round(-2)", x.round(-2), NONE);
+        x.seen(7);
+        // 99, 0, 7 and so on
+        int[] round = {7, 99, 0, 7, 99};
+        for (int n = 0; n < 5; n++) C.due("round(" + n + ") of three", x.round(n), round[n]);
         C.due("seen(NONE)", x.seen(NONE), 0);
         C.due("look(14)", x.look(14), 0);
         int[] seen = {1, 1, 2, 1, 1, 2, 1, 1, 3};
@@ -247,6 +266,12 @@ public final class ThoughtTest {
         Checks.text(x, 0, "");
         C.due("held to 0", x.safe(0, 1), -21);
         C.due("KIND 0", x.safe(0, 0), 0);
+        x.set(0, 0, 12);
+        Checks.text(x, 1, "");
+        Checks.text(x, 0, "blame 1 when glass=22;blame 0;");
+        // 2 .. 22: 0 is told rightly 18 times, and blamed once.
+        C.due("12 and 10", x.safe(0, 1), -17);
+        Checks.text(x, 0, "");
         x.set(0, 0, 99);
         Checks.text(x, 1, "for 1 rise 40;");
         C.due("held to 99", x.safe(0, 1), -21);
@@ -282,6 +307,9 @@ public final class ThoughtTest {
         C.due("works(3, 2, 5, 0)", x.works(3, 2, 5, 0), 3);
         C.due("works(4, 2, 99, 0)", x.works(4, 2, 99, 0), NONE);
         C.due("works(4, 2, 99, 1)", x.works(4, 2, 99, 1), 74);
+        C.due("works(1, 3, 1, 0)", x.works(1, 3, 1, 0), 1);
+        C.due("works(1, 3, 1, 1)", x.works(1, 3, 1, 1), 1);
+        C.due("works(1, 4, 1, 0)", x.works(1, 4, 1, 0), NONE);
         C.due("works(20, 0, 20, 0)", x.works(20, 0, 20, 0), 1);
         C.due("works(20, 0, 19, 0)", x.works(20, 0, 19, 0), NONE);
         C.due("works(20, 0, 19, 1)", x.works(20, 0, 19, 1), 19);
@@ -359,6 +387,11 @@ public final class ThoughtTest {
         for (int t = 0; t < 4; t++) C.due("weighs(" + t + ")", x.weighs(t), weighs[t]);
         C.due("weighs(4)", x.weighs(4), NONE);
         C.due("weighs(-1)", x.weighs(-1), NONE);
+        SackedGlass y = Checks.court(0, 0, 0, 9, 0, 9);
+        C.due("one alone has more than half", y.wins(0), 1);
+        C.due("the set", y.wins(1), 1);
+        C.due("weighs(0)", y.weighs(0), 4);
+        C.due("weighs(1)", y.weighs(1), 0);
         // Half is not more than half.
         x = Checks.court(0, 5, 0, 5);
         C.due("wins(0)", x.wins(0), 2);
