@@ -215,6 +215,15 @@ public final class BackTest {
         C.due("undone behind it", x.look(1), 1);
         x.image(false);
         C.due("as it was when it was taken", x.look(1), 2);
+        // The book's line is written over by another one, then comes back.
+        x.act(1, 0, 5);
+        int last = x.look(9) - 1;
+        x.image(true);
+        x.undo();
+        x.act(2, 1, 3);
+        C.line(x, last, 2, 6, 1, 3);
+        x.image(false);
+        C.line(x, last, 2, 5, 0, 5);
         Checks.feed(x, "tell 1;");
         x.image(true);
         x.end(4);

@@ -139,6 +139,18 @@ public final class CourtTest {
         x.days(1);
         C.due("no draw for one that is glued", x.look(10), 0);
         C.due("SAID is GLUE", x.of(0, 6), 1);
+        err(0, 563, 2, 1013904223);
+        err(0, 564, 3, 1196435762);
+        err(0, 1, 2, 1013904223);
+        // From STATE 2 the draws are 567 of 1000 and 0 of 2; from 5 they are 73 and 0.
+        err(2, 568, 1, 1975575172);
+        err(5, 74, 1, -1150683009);
+        x = Checks.court(0, 9);
+        x.set(0, 0, 0);
+        x.state(5);
+        x.days(1);
+        C.due("SAID is held to 0", x.of(0, 6), 0);
+        C.due("both draws are done", x.look(10), -1150683009);
         x = Checks.court(0, 9);
         x.set(0, 0, 99);
         x.days(1);
@@ -147,8 +159,24 @@ public final class CourtTest {
         C.due("told rightly though it erred", x.of(0, 4), 1);
     }
 
+    /** A day from this STATE on which one teller errs so much. */
+    private static void err(int state, int err, int said, int stateThen) {
+        SackedGlass x = Checks.court(0, 0);
+        x.state(state);
+        Checks.text(x, 0, "err " + err + ";");
+        x.days(1);
+        C.due("SAID from STATE " + state + " by err " + err, x.of(0, 6), said);
+        C.due("STATE from " + state + " by err " + err, x.look(10), stateThen);
+    }
+
     private static void promise6DaysGusts() {
         SackedGlass x = new SackedGlass();
+        x.days(1);
+        C.due("no draw without gusts", x.look(10), 0);
+        x.set(1, 0, 1);
+        x.days(1);
+        C.due("one draw by gusts of 1", x.look(10), 1013904223);
+        x = new SackedGlass();
         x.set(1, 0, 563);
         x.days(1);
         C.due("no gust at 563", x.look(2), 50);
@@ -268,6 +296,11 @@ public final class CourtTest {
         int lines = x.look(9);
         x.days(1);
         C.due("GLUE", x.of(0, 3), NONE);
+        SackedGlass y = Checks.court(0, 0, 0, 0, 0, 0, 0, 0);
+        y.act(2, 3, 2);
+        Checks.text(y, 2, "on 0 tap;");
+        y.days(1);
+        C.due("three free ones and one glued", y.look(6), 2);
         C.due("a line freed, one that came, one who told", x.look(9), lines + 3);
         C.line(x, lines, 2, 7, 0, 0);
     }

@@ -7,6 +7,7 @@ public final class TextTest {
         promise7Feed();
         promise8End();
         promise9Text();
+        promise9FullTape();
         promise9LawMeans();
         promise9LawLines();
         promise10FaultsOfTokens();
@@ -40,6 +41,21 @@ public final class TextTest {
         x.feed(0xffffffff, 0xffffffff, 0xffffffff, 0xffffffff, 0xffffffff);
         C.due("text of 255s", x.text(0), NONE);
         C.due("fault", x.fault(0), 1);
+    }
+
+    /** As many tokens as a tape can have. */
+    private static void promise9FullTape() {
+        SackedGlass x = Checks.court(0, 0);
+        C.faulty(x, 0, ";".repeat(400), 1, 0);
+        C.faulty(x, 0, "(".repeat(400), 1, 0);
+        C.faulty(x, 0, "tell 1" + "+1".repeat(197), 1, 400);
+        C.sound(x, 0, "err 1" + "+1".repeat(197) + ";", 1);
+        C.due("all are added", x.of(0, 8), 198);
+        C.sound(x, 0, "err 1 when 1=1" + "and 1=1".repeat(55) + ";", 1);
+        C.due("all are so", x.of(0, 8), 1);
+        C.sound(x, 0, "err 1 when 2=1" + " or 2=1".repeat(54) + " or 1=1;", 1);
+        C.due("the last one is so", x.of(0, 8), 1);
+        C.sound(x, 1, ("for 1 rise 40;" + " ".repeat(19)).repeat(12) + " ".repeat(4), 12);
     }
 
     private static void promise8End() {

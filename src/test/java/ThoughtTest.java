@@ -89,6 +89,11 @@ public final class ThoughtTest {
     private static void promise16And17RightAndSurest() {
         SackedGlass x = Checks.court(0, 0, 0, 0, 0, 0);
         C.due("surest() of no days", x.surest(), NONE);
+        SackedGlass y = Checks.court(0, 0, 0, 0);
+        y.act(2, 0, 0);
+        y.act(2, 1, 0);
+        y.days(1);
+        C.due("none told rightly: the least", y.surest(), 0);
         C.due("right(0, 0)", x.right(0, 0), 0);
         C.due("right(0, 1)", x.right(0, 1), 0);
         C.due("right(3, 0)", x.right(3, 0), NONE);
@@ -166,7 +171,16 @@ public final class ThoughtTest {
             y.set(0, 0, 20 * k);
             y.days(1);
             C.due("BEST is what came", y.likely(NONE), k);
+            C.due("likely(" + k + ")", y.likely(k), 66666L * 1000000 / (66666 + 160000));
         }
+        // It told 0 twice, and 2 and 3 came.
+        SackedGlass z = Checks.court(0, 0);
+        z.set(2, 0, -999);
+        z.act(2, 0, 0);
+        Checks.text(z, 1, "for 1 rise 0;for 1 rise 20;");
+        z.days(2);
+        C.due("BEST of several the least", z.likely(NONE), 2);
+        C.due("likely(3)", z.likely(3), 66666L * 1000000 / (2 * 66666 + 3 * 40000));
         // One that is gone counts no more.
         x.set(4, 0, -50);
         x.days(1);
@@ -369,6 +383,14 @@ public final class ThoughtTest {
         C.due("ASK: of several the least", x.leaks(0, 2), 0);
         x.umbrella(1, 7);
         C.due("ASK: one of two", x.leaks(0, 2), 7);
+        // 0 and 1 together are a lesser set than 2, but more.
+        x.umbrella(NONE, 0);
+        x.umbrella(0, 0);
+        x.umbrella(1, 1);
+        x.umbrella(2, 0);
+        x.umbrella(2, 1);
+        C.due("the fewest, not the least", x.leaks(3, 1), 4);
+        C.due("how many", x.leaks(3, 0), 1);
     }
 
     private static void promise26And27WinsAndWeighs() {
@@ -446,6 +468,10 @@ public final class ThoughtTest {
         C.due("serves(1)", x.serves(1), NONE);
         C.due("serves(-1)", x.serves(-1), NONE);
         C.due("six", x.look(16), 6);
+        C.due("post(NONE, 0)", x.post(NONE, 0), 0);
+        C.due("post(3, 1)", x.post(3, 1), 1);
+        C.due("worth 1", x.serves(0), 1);
+        C.due("whom it has", x.serves(10), 0);
         C.due("post(NONE, 0)", x.post(NONE, 0), 0);
         C.due("none", x.look(16), 0);
         // Alike for all: the lesser first.
@@ -525,9 +551,10 @@ public final class ThoughtTest {
         game(1, 2, 0, 5, 6);
         // 3 and 1: taking 2 of 3 leaves 1 and 1.
         game(0, 2, 3, 1);
-        SackedGlass x = Checks.court(0, 1, 0, 1);
+        SackedGlass x = Checks.court(0, 1);
         C.due("game(2)", x.game(2), NONE);
         C.due("game(-1)", x.game(-1), NONE);
+        x.teller(0, 1);
         x.set(4, 0, -50);
         x.set(1, 0, 0);
         x.act(0, 0, 0);
