@@ -21,14 +21,14 @@ public final class SackedGlass {
 
     private final Tape tape = new Tape();
     private final World now = new World();
-    private final World kept = new World();
     private final Court thought = new Court(false);
     private final Steps steps = new Steps();
-    private final Council council = new Council();
     private final Law nextLaw = new Law();
     private final Rounds nextRounds = new Rounds();
     private final Agenda nextAgenda = new Agenda();
-    private boolean imaged;
+    // Large, and made only when they are asked for first, since many objects share one room.
+    private World kept;
+    private Council council;
 
     public SackedGlass() {
     }
@@ -310,7 +310,7 @@ public final class SackedGlass {
         if (!within(what, 0, 1) || !within(took, 0, Notes.ALL_COURTIERS)) {
             return NONE;
         }
-        int leaking = council.leaking(now.notes, took);
+        int leaking = theCouncil().leaking(now.notes, took);
         return leaking == NONE || what == 1 ? leaking : Integer.bitCount(leaking);
     }
 
@@ -318,12 +318,12 @@ public final class SackedGlass {
         if (!within(what, 0, 1)) {
             return NONE;
         }
-        int winners = council.winners(now.court);
+        int winners = theCouncil().winners(now.court);
         return winners == NONE || what == 1 ? winners : Integer.bitCount(winners);
     }
 
     public int weighs(int teller) {
-        return now.court.has(teller) ? council.weightOf(now.court, teller) : NONE;
+        return now.court.has(teller) ? theCouncil().weightOf(now.court, teller) : NONE;
     }
 
     public int post(int sort, int worth) {
@@ -332,16 +332,16 @@ public final class SackedGlass {
 
     public int serves(int what) {
         if (what == 0) {
-            return council.greatestService(now.court, now.notes);
+            return theCouncil().greatestService(now.court, now.notes);
         }
         if (!within(what, 10, 10 + now.notes.postCount - 1)) {
             return NONE;
         }
-        return council.holderOf(now.court, now.notes, what - 10);
+        return theCouncil().holderOf(now.court, now.notes, what - 10);
     }
 
     public int hats() {
-        return council.wrongHats(now.court);
+        return theCouncil().wrongHats(now.court);
     }
 
     public boolean mix(int k, int v) {
@@ -369,13 +369,15 @@ public final class SackedGlass {
 
     public boolean image(boolean taken) {
         if (taken) {
+            if (kept == null) {
+                kept = new World();
+            }
             kept.take(now);
-            imaged = true;
-        } else if (imaged) {
+        } else if (kept != null) {
             now.take(kept);
             steps.forget();
         }
-        return imaged;
+        return kept != null;
     }
 
     public int look(int what) {
@@ -402,6 +404,13 @@ public final class SackedGlass {
             case 18: return Memory.kept(court);
             default: return NO_SUCH_LOOK;
         }
+    }
+
+    private Council theCouncil() {
+        if (council == null) {
+            council = new Council();
+        }
+        return council;
     }
 
     private static boolean within(int v, int least, int most) {

@@ -4,8 +4,9 @@ import java.util.Random;
 /** Any calls with any numbers in any state: none throws, none is dear, and none makes objects of its own. */
 public final class RoomTest {
     private static final int CALLS = 512;
-    private static final long MOST_BYTES_OF_ONE = 120_000;
-    private static final long MOST_BYTES_OF_CALLS = 2_000;
+    private static final long MOST_BYTES_OF_ONE = 40_000;
+    private static final long MOST_BYTES_OF_CALLS = 60_000;
+    private static final long MOST_BYTES_AGAIN = 2_000;
     private static final Checks C = new Checks();
 
     public static void main(String[] args) {
@@ -15,6 +16,7 @@ public final class RoomTest {
             for (int i = 0; i < CALLS; i++) call(x, random, seed % 3);
         }
         countBytes();
+        countAgain();
         C.finish("RoomTest");
     }
 
@@ -32,8 +34,25 @@ public final class RoomTest {
         long called = threads.getThreadAllocatedBytes(id);
         C.due("a new object keeps to " + MOST_BYTES_OF_ONE + " bytes, not " + (made - start),
                 made - start <= MOST_BYTES_OF_ONE, true);
-        C.due("512 calls make next to nothing, not " + (called - made) + " bytes",
+        C.due("512 calls make two large objects at most, not " + (called - made) + " bytes",
                 called - made <= MOST_BYTES_OF_CALLS, true);
+    }
+
+    /** What a call makes is made once, at its first use. */
+    private static void countAgain() {
+        com.sun.management.ThreadMXBean threads =
+                (com.sun.management.ThreadMXBean) ManagementFactory.getThreadMXBean();
+        if (!threads.isThreadAllocatedMemorySupported()) return;
+        long id = Thread.currentThread().getId();
+        SackedGlass x = Checks.court(0, 0, 1, 1);
+        Random random = new Random(6);
+        x.hats();
+        x.image(true);
+        long start = threads.getThreadAllocatedBytes(id);
+        for (int i = 0; i < CALLS; i++) call(x, random, 1);
+        long called = threads.getThreadAllocatedBytes(id);
+        C.due("512 more calls make next to nothing, not " + (called - start) + " bytes",
+                called - start <= MOST_BYTES_AGAIN, true);
     }
 
     /** A number: of way 0 any int, else mostly a small one. */
