@@ -3,11 +3,17 @@ import java.nio.charset.StandardCharsets;
 /** What the tests share: counting answers that are not due, and feeding texts. */
 final class Checks {
     private int wrong = 0;
+    private String sentence = "";
+
+    /** What is looked at from here on: told with each answer that is not due. */
+    void about(String what) {
+        sentence = what.isEmpty() ? "" : "\"" + what + "\": ";
+    }
 
     void due(String call, long got, long want) {
         if (got != want) {
             wrong++;
-            System.out.println(call + " answered " + got + ", due is " + want);
+            System.out.println(sentence + call + " answered " + got + ", due is " + want);
         }
     }
 
@@ -60,6 +66,40 @@ final class Checks {
         due("book(" + i + ", 1)", x.book(i, 1), what);
         due("book(" + i + ", 2)", x.book(i, 2), which);
         due("book(" + i + ", 3)", x.book(i, 3), much);
+    }
+
+    /** What can be looked at without changing anything, in fewer calls than an object has. */
+    static int[] all(SackedGlass x) {
+        int[] all = new int[200];
+        int n = 0;
+        for (int w = 0; w <= 18; w++) all[n++] = x.look(w);
+        for (int t = 0; t < Math.min(4, x.look(0)); t++) for (int w = 0; w < 10; w++) all[n++] = x.of(t, w);
+        for (int i = 1; i <= 3; i++) for (int w = 0; w < 4; w++) all[n++] = x.book(x.look(9) - i, w);
+        for (int d = 0; d < 4; d++) all[n++] = x.moves(d);
+        for (int w = 0; w < 2; w++) all[n++] = x.fault(w);
+        for (int w = 0; w < 4; w++) all[n++] = x.goes(9, w);
+        for (int w = 0; w < 2; w++) all[n++] = x.mixes(w);
+        for (int i = -1; i < 3; i++) all[n++] = x.round(i);
+        for (int w = 9; w < 16; w++) all[n++] = x.serves(w);
+        for (int took = 0; took < 8; took++) all[n++] = x.leaks(took, 1);
+        all[n++] = x.leaks(0, 2);
+        all[n++] = x.serves(0);
+        all[n++] = x.glued();
+        all[n++] = x.surest();
+        all[n] = x.likely(SackedGlass.NONE);
+        return all;
+    }
+
+    /** Nothing of what can be looked at has changed since. */
+    void unchanged(SackedGlass x, int[] was) {
+        int[] is = all(x);
+        for (int i = 0; i < was.length; i++) due("nothing changes: number " + i + " of all", is[i], was[i]);
+    }
+
+    /** So many bytes stand on the tape; looking changes nothing. */
+    void tape(SackedGlass x, int bytes) {
+        due("end() of all bytes of the tape", x.end(bytes), true);
+        due("end() of one byte more", x.end(bytes + 1), false);
     }
 
     /** A new object with tellers of these sorts and fears, two numbers each. */
