@@ -73,8 +73,10 @@ final class Checks {
         int[] all = new int[200];
         int n = 0;
         for (int w = 0; w <= 18; w++) all[n++] = x.look(w);
-        for (int t = 0; t < Math.min(4, x.look(0)); t++) for (int w = 0; w < 10; w++) all[n++] = x.of(t, w);
-        for (int i = 1; i <= 3; i++) for (int w = 0; w < 4; w++) all[n++] = x.book(x.look(9) - i, w);
+        int tellers = Math.min(4, all[0]);
+        int lines = all[9];
+        for (int t = 0; t < tellers; t++) for (int w = 0; w < 10; w++) all[n++] = x.of(t, w);
+        for (int i = 1; i <= 3; i++) for (int w = 0; w < 4; w++) all[n++] = x.book(lines - i, w);
         for (int d = 0; d < 4; d++) all[n++] = x.moves(d);
         for (int w = 0; w < 2; w++) all[n++] = x.fault(w);
         for (int w = 0; w < 4; w++) all[n++] = x.goes(9, w);

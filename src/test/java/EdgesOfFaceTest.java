@@ -306,6 +306,15 @@ public final class EdgesOfFaceTest {
         C.due("behind these", x.feed(0x3b202020, 0x20202020, 0x20202020, 0x20202020, 0x20202020), 25);
         C.due("the first bytes alone", x.text(0), 1);
         C.due("err 1;", x.of(0, 8), 1);
+        // What was cut off is not read on: neither a digit nor a letter of it.
+        Checks.feed(x, "err 12345");
+        x.end(8);
+        C.due("a text that is cut off", x.text(0), NONE);
+        C.due("at its end", x.fault(1), 8);
+        Checks.feed(x, "err off");
+        x.end(6);
+        C.due("a word that is cut off", x.text(0), NONE);
+        C.due("at its place", x.fault(1), 4);
         Checks.feed(x, "err 2;");
         C.due("none", x.end(0), true);
         C.due("an empty text", x.text(0), 0);

@@ -373,7 +373,10 @@ public final class EdgesOfTextsTest {
     private static void cannotStandThere() {
         SackedGlass x = Checks.court(0, 0);
         C.faulty(x, 0, "5;", 1, 0);
-        C.faulty(x, 0, "err err;", 1, 4);
+        for (String word : new String[] {"tell", "err", "blame", "when", "or", "and", "not"}) {
+            C.faulty(x, 0, "err " + word + ";", 1, 4);
+            C.faulty(x, 0, "err 1 when 1=" + word + ";", 1, 13);
+        }
         C.faulty(x, 0, "err (1);", 1, 4);
         C.faulty(x, 0, "err 1 when 1=1);", 1, 14);
         C.faulty(x, 0, "err 1 when (1=1;", 1, 15);
@@ -615,8 +618,11 @@ public final class EdgesOfTextsTest {
 
     private static void factIs(SackedGlass x, String sum, int first, int second) {
         Checks.text(x, 0, "err " + sum + ";");
-        C.due(sum + " of 0", x.of(0, 8), first);
-        C.due(sum + " of 1", x.of(1, 8), second);
+        C.due("err " + sum + " of 0", x.of(0, 8), first);
+        C.due("err " + sum + " of 1", x.of(1, 8), second);
+        Checks.text(x, 0, "tell " + sum + ";");
+        C.due("tell " + sum + " of 0", x.of(0, 7), Math.min(4, first));
+        C.due("tell " + sum + " of 1", x.of(1, 7), Math.min(4, second));
         Checks.text(x, 0, "");
     }
 

@@ -7,6 +7,7 @@ public final class EdgesOfThoughtTest {
 
     public static void main(String[] args) {
         S.says("IN THOUGHT (nothing of it stays; no DRAWS: none errs, no gusts)", EdgesOfThoughtTest::nothingStays);
+        S.says("nothing of it stays", EdgesOfThoughtTest::thoughtsApart);
         S.says("GOES for n (1 .. 99) DAYS", EdgesOfThoughtTest::goesDays);
         S.says("the first who falls in these (of several on one DAY the least), that DAY", EdgesOfThoughtTest::firstFall);
         S.says("of the n-th day from now (1 .. 99) what comes", EdgesOfThoughtTest::kindsAhead);
@@ -46,6 +47,8 @@ public final class EdgesOfThoughtTest {
         S.says("p 0 .. 1000 for which the lesser one of both sums is greatest; of several the least; that sum",
                 EdgesOfThoughtTest::mixes);
         S.says("the TELLER (of several the least), how many (the fewest) who begins well taps", EdgesOfThoughtTest::game);
+        S.says("the latest DAY, NAMING, BRIBING, GLUEING, FREEING, RECALLING not undone yet goes back (STATE, THE BOOK, "
+                + "THE RECORD, too)", EdgesOfThoughtTest::goesBack);
         S.says("6 are kept", EdgesOfThoughtTest::sixSteps);
         S.says("whatever else is told but THE LAW, SEEN, UMBRELLAS, POSTS, MIXES (the taking of THE IMAGE does not) "
                 + "forgets them", EdgesOfThoughtTest::forgets);
@@ -99,6 +102,40 @@ public final class EdgesOfThoughtTest {
         y.set(1, 0, 0);
         y.days(1);
         C.due("it does by day", y.of(0, 6) != 2, true);
+    }
+
+    /** One thought, of those that go over sets of tellers. */
+    private static int thought(SackedGlass x, int which) {
+        switch (which) {
+            case 0: return x.hats();
+            case 1: return x.serves(0);
+            case 2: return x.serves(11);
+            case 3: return x.wins(1);
+            case 4: return x.weighs(1);
+            case 5: return x.leaks(5, 1);
+            default: return x.leaks(0, 1);
+        }
+    }
+
+    private static SackedGlass thinker() {
+        SackedGlass x = Checks.court(0, 2, 1, 5, 2, 6);
+        x.post(1, 9);
+        x.post(2, 7);
+        x.umbrella(0, 0);
+        x.umbrella(1, 2);
+        return x;
+    }
+
+    /** What one thought leaves behind does not reach the next one. */
+    private static void thoughtsApart() {
+        int[] due = {2, 32, 2, 3, 2, 3, 0};
+        for (int first = 0; first < due.length; first++) {
+            for (int second = 0; second < due.length; second++) {
+                SackedGlass x = thinker();
+                C.due("thought " + first, thought(x, first), due[first]);
+                C.due("thought " + second + " behind " + first, thought(x, second), due[second]);
+            }
+        }
     }
 
     private static void goesDays() {
@@ -277,6 +314,12 @@ public final class EdgesOfThoughtTest {
         SackedGlass y = some(2);
         dismiss(y, 1);
         C.due("one GONE does not count", y.likely(2), 66666L * 1000000 / (66666 + 4 * 40000));
+        // One who came late has not told on the first day: 200000 * 3 / 7 * 2 / 6, else 8000.
+        SackedGlass late = some(1);
+        late.days(1);
+        late.teller(0, 0);
+        late.days(1);
+        C.due("85714 and 28571", late.likely(2), 28571L * 1000000 / (28571 + 4 * 8000));
         dismiss(y, 0);
         C.due("all are GONE", y.likely(2), NONE);
         C.due("BEST", y.likely(NONE), NONE);
@@ -323,6 +366,7 @@ public final class EdgesOfThoughtTest {
             x.set(0, 0, 20 * kind);
             x.days(1);
             C.due("BEST is what came", x.likely(NONE), kind);
+            C.due("likely(" + kind + ")", x.likely(kind), 66666L * 1000000 / (66666 + 4 * 40000));
         }
         SackedGlass x = some(1);
         x.set(2, 0, -999);
@@ -450,6 +494,15 @@ public final class EdgesOfThoughtTest {
         C.due("60 alone is blamed", x.safe(0, 1), -20 + 60);
         x.set(0, 0, 49);
         C.due("39 alone is blamed", x.safe(0, 1), -20 + 39);
+        // 0 .. 20 and 79 .. 99: the last one makes the other KIND safer, which is blamed for the first one alone.
+        Checks.text(x, 0, "blame 99 when glass=20;blame 5 when glass=0;blame 0;");
+        x.set(0, 0, 10);
+        C.due("KIND 1", x.safe(0, 0), 1);
+        C.due("0 comes once", x.safe(0, 1), 5 - 1);
+        Checks.text(x, 0, "blame 99 when glass=79;blame 5 when glass=99;blame 0;");
+        x.set(0, 0, 89);
+        C.due("KIND 3", x.safe(0, 0), 3);
+        C.due("99 comes once", x.safe(0, 1), 5 - 1);
         Checks.text(x, 0, "blame 99 when glass>98;blame 0;");
         x.set(0, 0, 70);
         Checks.text(x, 1, "for 1 rise 40;");
@@ -570,6 +623,10 @@ public final class EdgesOfThoughtTest {
         C.due("1 and 2", x.leaks(7, 1), 1 << 1 | 1 << 2);
         C.due("together all of it", x.leaks(15, 1), NONE);
         C.due("nobody took: no TELLERS", x.leaks(0, 0), 0);
+        x.umbrella(4, 0);
+        x.umbrella(4, 1);
+        C.due("one is fewer than 2 and 3, a lesser set", x.leaks(3, 1), 1 << 4);
+        C.due("one", x.leaks(3, 0), 1);
         // Ten who told one courtier each, and one courtier whom they all told.
         SackedGlass y = some(10);
         for (int t = 0; t < 10; t++) y.umbrella(t, t);
@@ -640,6 +697,10 @@ public final class EdgesOfThoughtTest {
         // 1 1 5 4 of 11: 6 are needed: 2 with 0.
         C.due("two", y.wins(0), 2);
         C.due("0 and 2 are a lesser set than 2 and 3", y.wins(1), 5);
+        SackedGlass w = Checks.court(0, 6, 0, 7, 0, 7, 0, 4);
+        // 4 3 3 6 of 16: 0, 1 and 2 are a lesser set than 0 and 3, but more.
+        C.due("the fewest, not the least", w.wins(1), 9);
+        C.due("two", w.wins(0), 2);
         SackedGlass z = some(1);
         dismiss(z, 0);
         C.due("all are GONE", z.wins(0), NONE);
@@ -671,6 +732,10 @@ public final class EdgesOfThoughtTest {
         C.due("worth 0", x.post(0, 0), NONE);
         C.due("worth 100", x.post(0, 100), NONE);
         C.due("none", x.look(16), 0);
+        C.due("of another SORT", x.post(1, 1), 1);
+        C.due("sum", x.serves(0), 1);
+        C.due("whom it has", x.serves(10), 0);
+        x.post(NONE, 0);
         C.due("the least", x.post(0, 1), 1);
         C.due("sum", x.serves(0), 2);
         C.due("the greatest", x.post(5, 99), 2);
@@ -822,6 +887,70 @@ public final class EdgesOfThoughtTest {
         for (int f : fears) x.teller(0, f);
         C.due("whom, of " + java.util.Arrays.toString(fears), x.game(0), teller);
         C.due("how many, of " + java.util.Arrays.toString(fears), x.game(1), many);
+    }
+
+    private static void goesBack() {
+        SackedGlass x = some(2);
+        x.set(2, 0, -1);
+        x.set(4, 0, -9);
+        x.act(0, 0, 0);
+        x.days(1);
+        C.due("GONE", x.of(0, 5), 1);
+        x.set(1, 0, 1000);
+        x.act(1, 1, 9);
+        x.act(2, 1, 3);
+        x.act(3, 1, 0);
+        int[] recalling = Checks.all(x);
+        x.act(4, 0, 0);
+        int[] naming = Checks.all(x);
+        x.act(0, 0, 0);
+        int lines = x.look(9);
+        x.days(1);
+        C.due("something was drawn", x.look(10) != 0, true);
+        C.due("undo the day", x.undo(), true);
+        C.due("STATE", x.look(10), 0);
+        C.due("GLASS", x.look(2), 50);
+        C.due("lines", x.look(9), lines);
+        C.due("days of the record", x.look(18), 1);
+        C.due("STAND", x.of(0, 4), 0);
+        C.due("undo the naming", x.undo(), true);
+        C.unchanged(x, naming);
+        C.due("undo the recalling", x.undo(), true);
+        C.unchanged(x, recalling);
+        C.due("undo the freeing", x.undo(), true);
+        C.due("GLUE", x.of(1, 3), 3);
+        C.due("undo the glueing", x.undo(), true);
+        C.due("GLUE", x.of(1, 3), NONE);
+        C.due("undo the bribing", x.undo(), true);
+        C.due("COIN", x.look(6), 0);
+        recordGoesBack();
+    }
+
+    /** On every seventh day from DAY 0 on one that is glued tells wrongly; 90 days are kept, and 6 go back. */
+    private static void recordGoesBack() {
+        SackedGlass x = some(1);
+        x.set(2, 0, -999);
+        x.act(2, 0, 2);
+        Checks.text(x, 1, "for 1 rise 20;for 1 fall 20;for 5 rise 0;");
+        int day = 0;
+        for (int n : new int[] {3, 60, 26, 1, 1, 5, 1, 60, 39, 7, 60, 60}) {
+            x.days(n);
+            day += n;
+            kept(x, day);
+            for (int i = 1; i <= Math.min(6, n); i++) {
+                x.undo();
+                kept(x, day - i);
+            }
+            x.days(Math.min(6, n));
+            kept(x, day);
+        }
+    }
+
+    private static void kept(SackedGlass x, int day) {
+        int wrong = 0;
+        for (int d = Math.max(0, day - 90); d < day; d++) wrong += d % 7 == 0 ? 1 : 0;
+        C.due("days at DAY " + day, x.look(18), Math.min(90, day));
+        C.due("right at DAY " + day, x.right(0, 0), Math.min(90, day) - wrong);
     }
 
     private static void sixSteps() {
