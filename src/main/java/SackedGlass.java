@@ -1246,7 +1246,9 @@ public final class SackedGlass {
                 if (days > 0 && told != word) {
                     return false;
                 }
-                changed |= days > 0 && came[slot] != kind;
+                if (days > 0 && came[slot] != kind) {
+                    changed = true;
+                }
                 word = told;
                 kind = came[slot];
                 days++;
